@@ -92,6 +92,7 @@ public final class PromiseTest {
         }
         due("refused hills change nothing", x.burns(0, 3), 7);
         fillAll(x);
+        due("it burns ahead of hills", x.burns(0, 10), 10);
         due("hills(2, 8)", x.hills(2, 8), true);
         due("W", x.count(0), 2);
         due("H", x.count(1), 8);
@@ -189,11 +190,19 @@ public final class PromiseTest {
         due("world 3", x.world(), 3);
         due("no fifth", x.world(), NONE);
         due("worlds", x.count(2), 4);
+        due("world 3 has the minute too", x.wind(3, 0, 0, 0), false);
         for (int i = 1; i < 8; i++) {
             due("winds of 0 to eight", x.wind(0, i * 10, 0, 0), true);
         }
         due("a ninth", x.wind(0, 1000, 0, 0), false);
         due("world 3 has its own count", x.wind(3, 10, 0, 0), true);
+        FireLines y = hills(3, 2);
+        y.light(0, 0);
+        y.wind(0, 10, 2, 9);
+        due("a wind from 10 on", y.burns(0, 1), 12);
+        y.world();
+        due("from 10 on in world 1 too", y.burns(1, 1), 12);
+        due("and not again at 10", y.wind(1, 10, 0, 0), false);
     }
 
     // Promise 5
@@ -583,6 +592,13 @@ public final class PromiseTest {
         z.crew(0);
         z.light(0, 0);
         due("crew 1 burns", z.order(0, 3, 0), -2);
+        due("the other one is in the fire itself", z.order(1, 3, 0), -2);
+        FireLines s = hills(4, 2);
+        s.safe(3);
+        s.crew(0);
+        s.crew(3);
+        s.light(0, 0);
+        due("crew 0 burns", s.order(1, 3, 0), -2);
         FireLines v = hills(4, 2);
         v.safe(3);
         v.crew(3);
@@ -796,7 +812,8 @@ public final class PromiseTest {
         x.cell(1, 0, 0, 0);
         due("fuel 0", x.maybe(1), false);
         due("none", x.count(6), 0);
-        due("a cell", x.maybe(7), true);
+        x.cell(7, 1, 0, 0);
+        due("a cell of fuel 1", x.maybe(7), true);
         due("it is told", x.maybe(7), false);
         for (int c = 2; c < 7; c++) {
             due("more", x.maybe(c), true);
@@ -912,5 +929,8 @@ public final class PromiseTest {
         due("3 in world 1", y.burns(1, 3), 4985 + 7);
         due("1 in world 1", y.burns(1, 1), NONE);
         due("1 burns in no world", y.count(7), 1);
+        y.wind(0, 0, 2, 9);
+        due("1 in world 0", y.burns(0, 1), 4989);
+        due("each burns in some world", y.count(7), 0);
     }
 }
