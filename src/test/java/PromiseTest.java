@@ -364,6 +364,15 @@ public final class PromiseTest {
         due("cut it never burns by going", x.burns(0, 1), NONE);
         due("a cut cell can be lit", x.light(1, 5), true);
         due("then it burns", x.burns(0, 1), 5);
+        // The work is done at 20, but it would burn at 51: a cut at 40 is ahead of that.
+        FireLines y = hills(3, 2);
+        y.safe(2);
+        y.crew(1);
+        y.light(0, 0);
+        due("seen not to burn at 50", y.not(1, 50), true);
+        due("at 51", y.burns(0, 1), 51);
+        due("cut at 40", y.order(0, 1, 30), 40);
+        due("it never burns by going", y.burns(0, 1), NONE);
     }
 
     // Promise 8
