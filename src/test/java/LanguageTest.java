@@ -6,7 +6,12 @@ import java.nio.file.Path;
 import java.util.ArrayList;
 import java.util.Arrays;
 import java.util.List;
+import java.util.Map;
+import java.util.Set;
+import java.util.TreeMap;
 import java.util.TreeSet;
+import java.util.regex.Matcher;
+import java.util.regex.Pattern;
 
 /** The rules of LANGUAGE.md that can be seen in the program's text and in its classes. */
 public final class LanguageTest {
@@ -22,6 +27,9 @@ public final class LanguageTest {
         "\\bthrow\\b", "\\bthrows\\b", "\\btry\\b", "\\bcatch\\b", "\\bsynchronized\\b", "\\bassert\\b",
         "->", "::", "\\bdouble\\b", "\\bfloat\\b", "\\bThread\\b", "\\bRandom\\b", "\\bException\\b",
         "Exact\\b", "System\\.(?!arraycopy\\b)", "\\bObject\\b", "\\bpackage\\b", "\\bprotected\\b"};
+    private static final int MOST_DEEP = 8;
+    private static final Pattern METHOD = Pattern.compile(" {4,8}(?:[\\w\\[\\]]+ )+(\\w+)\\(.*\\) \\{");
+    private static final Pattern CALLED = Pattern.compile("\\b(?!if\\b|for\\b|while\\b|switch\\b)([a-z]\\w*)\\(");
     private static int wrong = 0;
 
     private static void check(boolean fine, String what) {
@@ -36,6 +44,7 @@ public final class LanguageTest {
         words(lines);
         newOnlyWhereObjectsAreMade(lines);
         methodLengths(lines);
+        callDepth(lines);
         face();
         classesInside();
         System.out.println(wrong == 0 ? "LanguageTest: all as due" : "LanguageTest: " + wrong + " wrong");
@@ -85,6 +94,43 @@ public final class LanguageTest {
                 check(i - start < 60, "line " + (i + 1) + ": a method of over sixty lines");
             }
         }
+    }
+
+    /** Which names each method calls; methods of one name count as one, which can only make a chain longer. */
+    private static Map<String, Set<String>> callsByMethod(List<String> lines) {
+        Map<String, Set<String>> calls = new TreeMap<>();
+        Set<String> current = new TreeSet<>();
+        for (String line : lines) {
+            Matcher head = METHOD.matcher(line);
+            if (head.lookingAt()) {
+                current = calls.computeIfAbsent(head.group(1), name -> new TreeSet<>());
+            } else if (!line.strip().startsWith("*") && !line.strip().startsWith("/")) {
+                Matcher called = CALLED.matcher(line);
+                while (called.find()) {
+                    current.add(called.group(1));
+                }
+            }
+        }
+        return calls;
+    }
+
+    private static void callDepth(List<String> lines) {
+        Map<String, Set<String>> calls = callsByMethod(lines);
+        check(calls.containsKey("goOn") && calls.get("plan").contains("worstBurntWith"), "the calls were not found");
+        for (String name : calls.keySet()) {
+            check(depth(calls, name, 1) <= MOST_DEEP, name + " begins a chain of over eight calls");
+        }
+    }
+
+    /** How many calls stand open at most; of a method that calls itself, over the most that may. */
+    private static int depth(Map<String, Set<String>> calls, String name, int open) {
+        int most = open;
+        if (open <= MOST_DEEP && calls.containsKey(name)) {
+            for (String called : calls.get(name)) {
+                most = Math.max(most, depth(calls, called, open + 1));
+            }
+        }
+        return most;
     }
 
     private static void face() {
